@@ -654,7 +654,6 @@ public final class NamingElders {
             holds = other.holds;
         }
 
-        /** Sets all that is the CHILD's: its place may have been another's before an undo. */
         int addChild(int itsKind, int itsV, int itsWords) {
             int c = children;
             kind[c] = itsKind;

@@ -62,6 +62,7 @@ public final class TapesTest {
         Expect.due("34: n above", x.tape(0, 0, 61), BAD);
         Expect.due("34: n below", x.tape(0, 0, -1), SIZE);
         Expect.due("34: sort above", x.tape(0, 5, -1), BAD);
+        Expect.due("34: sort far above", x.tape(0, 6, 3), BAD);
         Expect.due("34: sort below", x.tape(0, -2, 0), BAD);
         Expect.due("34: tape above", x.tape(6, 5, 0), NONE);
         Expect.due("34: tape below", x.tape(-1, 0, -1), NONE);
