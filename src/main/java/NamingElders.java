@@ -53,10 +53,10 @@ public final class NamingElders {
     public NamingElders() {
         kinds = new Child[] {new Child(), new Baby(), new Twin(), new Shy(), new Crawler(), new Imp(), new Told()};
         for (int i = 0; i < VALLEYS; i++) {
-            valleys[i] = new Valley(text);
+            valleys[i] = new Valley();
         }
         // A VALLEY without CLAUSES holds till there is one.
-        Valley bare = new Valley(text);
+        Valley bare = new Valley();
         now = new State(bare);
         image = new State(bare);
         trial = new State(bare);
@@ -166,7 +166,7 @@ public final class NamingElders {
 
     public int valley() {
         if (valleyCount >= VALLEYS) return FULL;
-        int fault = valleys[valleyCount].parse(textLength);
+        int fault = valleys[valleyCount].parse(text, textLength);
         textLength = 0;
         if (fault != FINE) return FAULTED - fault;
         now.holds = valleys[valleyCount];
@@ -740,18 +740,15 @@ public final class NamingElders {
 
     /** CLAUSES as steps, one behind the other: what a TEST or another sign joins stands ahead of it. */
     private static final class Valley {
-        private final byte[] text;
+        private final byte[] text = new byte[TEXT];
         private int end, at;
         private final int[] op = new int[TEXT], relation = new int[TEXT], number = new int[TEXT];
         private int steps;
         int learn;
 
-        Valley(byte[] theText) {
-            text = theText;
-        }
-
         /** Reads THE TEXT of a length: FINE, or the FAULT. */
-        int parse(int length) {
+        int parse(byte[] theText, int length) {
+            System.arraycopy(theText, 0, text, 0, TEXT);
             end = length;
             at = 0;
             steps = 0;

@@ -153,7 +153,7 @@ public final class PlainTest {
         for (int i = 0; i < text.length() && calls.size() < CALLS; i++) {
             call("feed", (int) text.charAt(i));
         }
-        if (random.nextInt(10) > 0) call("valley");
+        if (random.nextInt(10) > 0 && calls.size() < CALLS) call("valley");
     }
 
     private void call(String name, Object... args) throws Exception {
